@@ -79,11 +79,11 @@ public final class BuildGrid {
         checkArgument(finds == NONE || isBelow(finds, FILE_SETS));
         checkArgument(isBelow(flakiness, kind == TEST ? FLAKINESSES : 1));
         checkState(graph.row.size > 0 && !course.goesOn && graph.told < TARGETS);
-        Target told = graph.tellNext();
-        told.describe(kind, tool, option, shards, finds, flakiness);
-        told.inputs.become(graph.row);
+        Target next = graph.tellNext();
+        next.describe(kind, tool, option, shards, finds, flakiness);
+        next.inputs.become(graph.row);
         graph.row.size = 0;
-        return told.number;
+        return next.number;
     }
 
     public int copy(int target, int option)
@@ -92,10 +92,10 @@ public final class BuildGrid {
         checkArgument(isBelow(option, DIGITS));
         checkState(!course.goesOn && graph.told < TARGETS);
         Target model = graph.targetAt(target);
-        Target told = graph.tellNext();
-        told.describe(model.kind, model.tool, option, model.shards, model.finds, model.flakiness);
-        told.inputs.become(model.inputs);
-        return told.number;
+        Target next = graph.tellNext();
+        next.describe(model.kind, model.tool, option, model.shards, model.finds, model.flakiness);
+        next.inputs.become(model.inputs);
+        return next.number;
     }
 
     // ---- workers and the cache
@@ -451,7 +451,7 @@ public final class BuildGrid {
     private static final class Target {
         final int number;
         final Inputs inputs;
-        private final Action[] actions = new Action[SHARDS];
+        final Action[] actions = new Action[SHARDS];
         int kind;
         int tool;
         int option;
@@ -603,7 +603,7 @@ public final class BuildGrid {
             return needed;
         }
 
-        private int inputTargets(Target target) {
+        int inputTargets(Target target) {
             int bits = 0;
             for (int i = 0; i < target.inputs.size; i++) {
                 int thing = target.inputs.chosen(i);
