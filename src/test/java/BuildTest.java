@@ -18,6 +18,7 @@ public final class BuildTest {
         promise15ChangedFileFound();
         promise15InVainMayBeAHit();
         promise15Flake();
+        promise15FailedIsNotLookedFor();
         promise15NotGood();
         promise15FailuresStartAgain();
         promise15LostAttemptKeepsFailures();
@@ -250,6 +251,28 @@ public final class BuildTest {
         Expect.same("19: not sound by its input", grid.about(1, 0), 0);
         Expect.same("15: that is kept", grid.entries(), 1);
         Expect.same("19: no quarantine after one build", grid.about(0, 2), 0);
+    }
+
+    /** Of two targets with one key one is done, as the attempt of the other one fails: that is READY, not OPEN. */
+    private static void promise15FailedIsNotLookedFor() {
+        BuildGrid grid = new BuildGrid();
+        Told.test(grid, 1, 1, 0);
+        grid.copy(0, 1);
+        int first = Told.content(c -> succeeds(Told.testKey(0, c), 1, 1));
+        grid.write(0, first);
+        Told.buildAll(grid, 2);
+        grid.write(0, Told.content(c -> c != first && failsOnce(Told.testKey(0, c), 1, 1)
+            && succeeds(Told.testKey(0, c), 2, 1)));
+        grid.setPower(0, 4);
+        grid.setPower(1, 4);
+        grid.build(3);
+        grid.pass(2);
+        Expect.same("15: the second attempt at the one is good", grid.state(1, 0), DONE);
+        Expect.same("15: it is kept", grid.entries(), 2);
+        Expect.same("15: the first at the other one failed", grid.state(0, 0), READY);
+        grid.pass(1);
+        Expect.same("15: it is begun again", grid.count(0), 4);
+        Expect.same("15: and no hit", grid.count(1), 0);
     }
 
     private static void promise15NotGood() {

@@ -11,6 +11,7 @@ public final class ChangesTest {
         promise26NothingToFind();
         promise26ManyFiles();
         promise26FirstChangesAreForgotten();
+        promise26ContentsMoveAlong();
         promise26LooksWhereItWasGoodAgain();
         promise26ByToolsOfNow();
         promise27Looks();
@@ -73,7 +74,6 @@ public final class ChangesTest {
         Expect.same("26: in a build", grid.bisect(0), 2);
     }
 
-    /** The looks are those of a plain bisection, told apart from the program. */
     private static void promise26EveryPlace() {
         for (int place = 0; place < 30; place++) {
             BuildGrid grid = goodGrid();
@@ -84,18 +84,8 @@ public final class ChangesTest {
                     grid.write(15, 100 + i);
                 }
             }
-            int low = 0, high = 30, looks = 0;
-            while (high - low > 1) {
-                looks++;
-                int middle = (low + high) / 2;
-                if (middle > place) {
-                    high = middle;
-                } else {
-                    low = middle;
-                }
-            }
             Expect.same("26: at " + place, grid.bisect(0), place);
-            Expect.same("27: at " + place, grid.looks(), looks);
+            Expect.same("27: at " + place, grid.looks(), plainLooks(place));
         }
     }
 
@@ -144,6 +134,38 @@ public final class ChangesTest {
         Expect.same("26: the last of 30", grid.bisect(0), 29);
         grid.write(15, 500);
         Expect.same("26: one was forgotten", grid.bisect(0), 28);
+    }
+
+    /** All 30 changes are of the file that is read, and the first 10 were forgotten. */
+    private static void promise26ContentsMoveAlong() {
+        BuildGrid grid = new BuildGrid();
+        Told.test(grid, 1, 0, 0);
+        int content = 0;
+        int broken = 0;
+        for (int i = 0; i < 40; i++) {
+            int before = content;
+            boolean isGood = before < 25;
+            content = Told.content(c -> c > before && Told.isGood(Told.testKey(0, c)) == isGood);
+            broken = isGood ? i + 1 : broken;
+            grid.write(0, content);
+        }
+        Expect.same("26: the changes kept begin with the eleventh", grid.bisect(0), broken - 10);
+        Expect.same("27: looks", grid.looks(), plainLooks(broken - 10));
+    }
+
+    /** The looks of a bisection over 30 changes, told apart from the program. */
+    private static int plainLooks(int broken) {
+        int low = 0, high = 30, looks = 0;
+        while (high - low > 1) {
+            looks++;
+            int middle = (low + high) / 2;
+            if (middle > broken) {
+                high = middle;
+            } else {
+                low = middle;
+            }
+        }
+        return looks;
     }
 
     /** Good, not good, good, not good: with four changes the middle is the second one. */
