@@ -328,6 +328,10 @@ public final class BuildGrid {
         return (31 * sum + number + 1) % MODULUS;
     }
 
+    private static int resultOf(int key, int contentFound) {
+        return contentFound == NONE ? key : plus(key, contentFound);
+    }
+
     /** Files, settings and tools as they are now, and the latest changes of files. */
     private static final class Sources {
         final int[] files = new int[FILES];
@@ -768,10 +772,6 @@ public final class BuildGrid {
         int contentFound(Target target, int key) {
             return at(contents, target.fileFound(key));
         }
-    }
-
-    private static int resultOf(int key, int contentFound) {
-        return contentFound == NONE ? key : plus(key, contentFound);
     }
 
     /** What targets would be if all were made anew, without the cache and without flakes. */

@@ -20,7 +20,7 @@ public final class FaceTest {
         "int result(int,int)", "int about(int,int)", "int proof(int)", "int count(int)", "int needed(int)",
         "int needing(int)", "int steps(int,int)", "int changes()", "int bisect(int)", "int looks()");
     private static final List<String> FORBIDDEN = List.of("import ", "package ", "->", "::", "finally", "synchronized",
-        "assert ", "catch", "System.out", "Random", "Thread", "Exact(", "null;//", "goto", "hashCode", "toString",
+        "assert ", "catch", "System.out", "Random", "Thread", "Exact(", "hashCode", "toString",
         "equals(", "var ", "instanceof");
 
     private FaceTest() { }
