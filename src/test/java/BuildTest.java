@@ -17,6 +17,8 @@ public final class BuildTest {
         promise15ChangedInput();
         promise15ChangedFileFound();
         promise15InVainMayBeAHit();
+        promise15OpenReadsTheFilesOfThen();
+        promise15InputsKeepTheirResults();
         promise15Flake();
         promise15FailedIsNotLookedFor();
         promise15NotGood();
@@ -33,6 +35,8 @@ public final class BuildTest {
         promise19Wrong();
         promise19Sound();
         promise19Stale();
+        promise19StaleByOneShard();
+        promise19NotNeededAnyMore();
         promise19Good();
         promise19Digest();
         promise19Way();
@@ -226,6 +230,49 @@ public final class BuildTest {
         Expect.same("15: in vain", grid.count(2), 1);
         Expect.same("15: then a hit", grid.count(1), 1);
         Expect.same("15: that is done", grid.state(0, 0), DONE);
+        BuildGrid copied = new BuildGrid();
+        Told.compile(copied, 0, 0, 0);
+        copied.copy(0, 0);
+        Told.buildAll(copied, 1);
+        copied.write(0, 1);
+        copied.build(2);
+        copied.write(0, 2);
+        copied.pass(1);
+        copied.write(0, 0);
+        Told.passAll(copied);
+        Expect.same("15: a hit of another target's", copied.state(1, 0), DONE);
+        Expect.same("21: behind what was in vain", copied.count(2), 1);
+        Expect.same("19: ticks in vain are not learnt", copied.about(1, 5), 5);
+    }
+
+    private static void promise15OpenReadsTheFilesOfThen() {
+        BuildGrid grid = new BuildGrid();
+        Told.compile(grid, 0, 0, 0);
+        Told.compile(grid, 0, 1, 16, 1);
+        grid.build(2);
+        grid.pass(4);
+        grid.write(1, 5);
+        Told.passAll(grid);
+        Expect.same("15: it was begun behind the change", grid.result(1, 0),
+            Told.compileKey(0, 1, Expect.sum(grid.result(0, 0)), 5));
+        Expect.same("21: so nothing was in vain", grid.count(2), 0);
+    }
+
+    /** An input that is DONE stays as it is, though its file changes: the digest is that of this build. */
+    private static void promise15InputsKeepTheirResults() {
+        BuildGrid grid = new BuildGrid();
+        Told.compile(grid, 0, 0, 0);
+        Told.compile(grid, 0, 1, 16);
+        grid.build(2);
+        grid.pass(9);
+        grid.write(0, 5);
+        Told.passAll(grid);
+        Expect.same("18: the input has its old result", grid.result(0, 0), Told.compileKey(0, 0, 0));
+        Expect.same("18: and what needs it is made of that", grid.result(1, 0),
+            Told.compileKey(0, 1, Expect.sum(grid.result(0, 0))));
+        Expect.same("21: nothing was in vain", grid.count(2), 0);
+        Expect.same("19: sound", grid.about(1, 0), 1);
+        Expect.same("19: but stale", grid.about(1, 1), 1);
     }
 
     private static void promise15Flake() {
@@ -549,6 +596,45 @@ public final class BuildTest {
         Expect.same("19: stale by a tool", grid.about(0, 1), 1);
         grid.build(2);
         Expect.same("19: not, if it is not done", grid.about(0, 1), 0);
+    }
+
+    /** Each of two shards finds a file of its own. */
+    private static void promise19StaleByOneShard() {
+        BuildGrid grid = new BuildGrid();
+        grid.write(0, Told.content(c -> isFineWithAFile(0, c) && isFineWithAFile(1, c)));
+        grid.input(0, NONE, 0, 0);
+        grid.target(BuildGrid.TEST, 0, 1, 2, 65535, 0);
+        Told.buildAll(grid, 1);
+        int first = grid.entry(0, 1);
+        int second = grid.entry(1, 1);
+        Expect.yes("two files, and not the one that is read", first != second && first * second != 0);
+        Expect.same("19: fresh", grid.about(0, 1), 0);
+        grid.write(first, 1);
+        Expect.same("19: stale by the first shard alone", grid.about(0, 1), 1);
+        grid.write(first, 0);
+        Expect.same("19: fresh again", grid.about(0, 1), 0);
+        grid.write(second, 1);
+        Expect.same("19: stale by the last shard alone", grid.about(0, 1), 1);
+    }
+
+    private static boolean isFineWithAFile(int shard, int content) {
+        int key = Told.testKey(shard, content);
+        return key % 16 != 0 && Expect.plus(key, 0) % 4 != 0;
+    }
+
+    private static void promise19NotNeededAnyMore() {
+        BuildGrid grid = new BuildGrid();
+        Told.compile(grid, 0, 0, 0);
+        Told.compile(grid, 0, 1, 1);
+        Told.buildAll(grid, 3);
+        grid.write(0, 1);
+        Expect.same("19: stale", grid.about(0, 1), 1);
+        Expect.yes("20: it has a proof", grid.proof(0) >= 0);
+        Told.buildAll(grid, 2);
+        Expect.same("19: stale no more, since it is nothing", grid.about(0, 1), 0);
+        Expect.same("19: nor has it a way", grid.about(0, 5), NONE);
+        Expect.state("20: nor a proof", () -> grid.proof(0));
+        Expect.yes("20: the other one has", grid.proof(1) >= 0);
     }
 
     private static void promise19Good() {

@@ -18,6 +18,9 @@ public final class CacheTest {
         noFileFoundIsNoHit();
         hitsGoThroughInOnePass();
         aLieGoesUp();
+        aHitIsNoFlake();
+        waysOfLookingChangeInABuild();
+        aHitDoesNotKeepAnEntry();
         Expect.close("CacheTest");
     }
 
@@ -235,5 +238,64 @@ public final class CacheTest {
         Expect.same("19: stale", grid.about(1, 1), 1);
         Expect.same("19: its digest from nothing", grid.about(1, 4), Expect.sum(right));
         Expect.same("19: sound all the same", grid.about(1, 0), 1);
+    }
+
+    /** It was a flake in the build before: what it was then is not looked at. */
+    private static void aHitIsNoFlake() {
+        BuildGrid grid = new BuildGrid();
+        Told.test(grid, 1, 1, 0);
+        int fine = Told.content(c -> !Told.fails(Told.testKey(0, c), 1, 1));
+        int flaky = Told.content(c -> c != fine && Told.isGood(Told.testKey(0, c))
+            && Told.fails(Told.testKey(0, c), 2, 1) && !Told.fails(Told.testKey(0, c), 3, 1));
+        grid.write(0, fine);
+        Told.buildAll(grid, 1);
+        Expect.same("19: sound", grid.about(0, 0), 1);
+        grid.write(0, flaky);
+        Told.buildAll(grid, 1);
+        Expect.same("19: a flake is not sound", grid.about(0, 0), 0);
+        grid.write(0, fine);
+        grid.build(1);
+        Expect.same("14: a hit", grid.count(1), 1);
+        Expect.same("19: sound again", grid.about(0, 0), 1);
+        Expect.same("21: no other flake", grid.count(4), 1);
+        Expect.same("19: nor a quarantine", grid.about(0, 2), 0);
+    }
+
+    /** Signatures are looked at as it is told then: an action that is OPEN at first is looked for later. */
+    private static void waysOfLookingChangeInABuild() {
+        BuildGrid grid = new BuildGrid();
+        Told.compile(grid, 0, 0, 0);
+        Told.compile(grid, 0, 1, 16);
+        Told.buildAll(grid, 2);
+        grid.lose(0);
+        grid.lie(1, 99);
+        grid.build(2);
+        grid.pass(1);
+        grid.setWays(false, false);
+        Told.passAll(grid);
+        Expect.same("9: nobody looks any more", grid.result(1, 0), 99);
+        grid.lose(2);
+        grid.build(2);
+        grid.setWays(true, false);
+        grid.pass(6);
+        Expect.same("9: now somebody does", grid.state(1, 0), READY);
+    }
+
+    private static void aHitDoesNotKeepAnEntry() {
+        BuildGrid grid = new BuildGrid();
+        Told.compile(grid, 0, 0, 0);
+        grid.setPower(0, 9);
+        for (int content = 0; content < 40; content++) {
+            grid.write(0, content);
+            grid.build(1);
+            grid.pass(1);
+        }
+        grid.write(0, 0);
+        grid.build(1);
+        Expect.same("14: the first one is a hit", grid.state(0, 0), DONE);
+        grid.write(0, 40);
+        grid.build(1);
+        grid.pass(1);
+        Expect.same("10: and goes as the first one all the same", grid.entry(0, 0), Told.compileKey(0, 0, 1));
     }
 }

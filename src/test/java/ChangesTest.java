@@ -14,6 +14,7 @@ public final class ChangesTest {
         promise26ContentsMoveAlong();
         promise26LooksWhereItWasGoodAgain();
         promise26ByToolsOfNow();
+        promise26FlakinessDoesNotMatter();
         promise27Looks();
         Expect.close("ChangesTest");
     }
@@ -202,6 +203,18 @@ public final class ChangesTest {
         Expect.same("26: good with the tool as it is", grid.bisect(0), NONE);
         grid.setTool(0, version);
         Expect.same("26: not with that of now", grid.bisect(0), 0);
+    }
+
+    private static void promise26FlakinessDoesNotMatter() {
+        BuildGrid grid = new BuildGrid();
+        Told.test(grid, 1, 3, 0);
+        int failing = Told.content(c -> c > 0 && Told.isGood(Told.testKey(0, c))
+            && Told.fails(Told.testKey(0, c), 1, 3));
+        grid.write(0, failing);
+        Expect.same("26: what fails at first is good", grid.bisect(0), NONE);
+        grid.write(0, bad(0));
+        Expect.same("26: what is not good is not", grid.bisect(0), 1);
+        Expect.same("27: the failing one was looked at", grid.looks(), 1);
     }
 
     private static void promise27Looks() {

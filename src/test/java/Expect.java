@@ -3,6 +3,9 @@ import java.util.function.IntSupplier;
 
 /** Counts what is as due and prints what is not; and the sums of the document, written apart from the program. */
 final class Expect {
+    /** More faults than these are counted, but not printed. */
+    private static final int MOST_PRINTED = 60;
+
     private static int passed;
     private static int failed;
 
@@ -12,8 +15,22 @@ final class Expect {
         if (got == due) {
             passed++;
         } else {
-            failed++;
-            System.out.println(what + " answered " + got + ", due is " + due);
+            fault(what + " answered " + got + ", due is " + due);
+        }
+    }
+
+    private static void fault(String text) {
+        failed++;
+        if (failed <= MOST_PRINTED) {
+            System.out.println(text);
+        }
+    }
+
+    static void text(String what, String got, String due) {
+        if (got.equals(due)) {
+            passed++;
+        } else {
+            fault(what + " answered " + got + ", due is " + due);
         }
     }
 
@@ -40,15 +57,13 @@ final class Expect {
     private static void refused(String what, IntSupplier call, Class<?> due) {
         try {
             int got = call.getAsInt();
-            failed++;
-            System.out.println(what + " answered " + got + ", due is " + due.getSimpleName());
+            fault(what + " answered " + got + ", due is " + due.getSimpleName());
         } catch (IllegalArgumentException | IllegalStateException | IndexOutOfBoundsException e) {
             // The exact class: the machine's own exceptions stand below these.
             if (e.getClass() == due) {
                 passed++;
             } else {
-                failed++;
-                System.out.println(what + " threw " + e.getClass().getName() + ", due is " + due.getSimpleName());
+                fault(what + " threw " + e.getClass().getName() + ", due is " + due.getSimpleName());
             }
         }
     }

@@ -43,28 +43,30 @@ public final class RoomTest {
         return grid;
     }
 
+    /** With told(), not more calls than a grid is used for. */
     private static void useAll(BuildGrid grid) {
         for (int worker = 0; worker < 4; worker++) {
-            grid.setPower(worker, 3);
+            grid.setPower(worker, 9);
         }
         grid.setWays(true, true);
-        for (int round = 0; round < 40; round++) {
-            grid.write(round % 16, round);
+        for (int round = 0; round < 4; round++) {
+            grid.write(round, 1 + round);
             grid.build((1 << 14) - 1);
             for (int i = 0; i < 20 && grid.goesOn(); i++) {
                 grid.pass(50);
             }
-            for (int t = 0; t < 14; t++) {
-                for (int what = 0; what < 6; what++) {
-                    grid.about(t, what);
-                }
-                grid.needed(t);
-                grid.needing(16 + t);
-                grid.steps(13, t);
-                grid.bisect(t);
-            }
         }
-        for (int e = 0; e < grid.entries(); e++) {
+        for (int t = 0; t < 14; t++) {
+            for (int what = 0; what < 6; what++) {
+                grid.about(t, what);
+            }
+            grid.needed(t);
+            grid.needing(16 + t);
+            grid.steps(13, t);
+            grid.bisect(t);
+        }
+        int entries = grid.entries();
+        for (int e = 0; e < entries; e++) {
             grid.entry(e, 6);
             grid.lie(e, 0);
             grid.lose(e);

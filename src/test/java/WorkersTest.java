@@ -18,6 +18,9 @@ public final class WorkersTest {
         strongestWorkerFirst();
         wayIsLearnt();
         speculationTakesTheLongest();
+        speculationTakesWhatIsLeft();
+        speculationHelpsEachWorker();
+        strongestNotWarmest();
         speculationAtHomeWins();
         speculationAwayWins();
         speculationWithOtherKey();
@@ -297,6 +300,52 @@ public final class WorkersTest {
         Expect.same("15: it ended just now", grid.count(0), 4);
         grid.pass(1);
         Expect.same("15: idle again, it begins the next one", grid.count(0), 5);
+    }
+
+    /** Of 14 ticks 5 are left, of 8 all: the latter are more. */
+    private static void speculationTakesWhatIsLeft() {
+        BuildGrid grid = new BuildGrid();
+        Told.compile(grid, 0, 0, 0, 0, 0, 0);
+        Told.compile(grid, 1, 1, 0);
+        grid.setPower(0, 0);
+        grid.setPower(1, 1);
+        grid.setWays(true, true);
+        grid.build(0b11);
+        grid.pass(9);
+        grid.setPower(2, 1);
+        grid.pass(1);
+        Expect.same("15: both are run", grid.count(0), 2);
+        grid.setPower(0, 9);
+        grid.pass(1);
+        Expect.same("15: what has 7 left is done at home", grid.state(1, 0), DONE);
+        Expect.same("15: what has 4 left is not", grid.state(0, 0), RUN);
+    }
+
+    private static void speculationHelpsEachWorker() {
+        for (int worker = 1; worker < 4; worker++) {
+            BuildGrid grid = new BuildGrid();
+            Told.compile(grid, 0, 0, 0);
+            grid.setPower(worker, 2);
+            grid.setWays(true, true);
+            grid.build(1);
+            grid.pass(1);
+            Expect.same("15: the worker 0 begins as well as the worker " + worker, grid.count(0), 2);
+            grid.setPower(worker, 0);
+            Expect.same("15: and goes on alone", grid.state(0, 0), RUN);
+        }
+    }
+
+    /** The warm worker would need a tick less; the strongest has it all the same. */
+    private static void strongestNotWarmest() {
+        BuildGrid grid = new BuildGrid();
+        Told.compile(grid, 0, 0, 0);
+        Told.compile(grid, 0, 1, 0);
+        grid.setPower(0, 0);
+        grid.setPower(1, 3);
+        Expect.same("15: the worker 1 becomes warm", ticksOf(grid, 0), 3);
+        grid.setPower(2, 4);
+        Expect.same("15: the worker 2 has it, cold", ticksOf(grid, 1), 2);
+        Expect.same("15: and signs", grid.entry(1, 4), 2);
     }
 
     /** Who loses the race is idle, and not warm; who wins it is warm. */
