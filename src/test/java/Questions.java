@@ -81,25 +81,31 @@ final class Questions {
     /** How it goes on tick by tick; then a build of all that is told, so that what workers remember shows. */
     static List<int[]> future() {
         List<int[]> calls = new ArrayList<>();
-        for (int tick = 0; tick < 24; tick++) {
-            calls.add(new int[] {Calls.PASS, 1});
-            for (int what = 0; what < 5; what++) {
-                calls.add(new int[] {Calls.COUNT, what});
-            }
+        addTicks(calls, 24);
+        calls.add(new int[] {Calls.PASS, 50});
+        calls.add(new int[] {Calls.PASS, 50});
+        for (int file = 0; file < 4; file++) {
+            calls.add(new int[] {Calls.WRITE, file, 501 + file});
         }
-        calls.add(new int[] {Calls.PASS, 50});
-        calls.add(new int[] {Calls.PASS, 50});
-        calls.add(new int[] {Calls.WRITE, 0, 501});
         for (int told = 14; told > 0; told--) {
             calls.add(new int[] {Calls.BUILD, (1 << told) - 1});
         }
-        for (int tick = 0; tick < 14; tick++) {
-            calls.add(new int[] {Calls.PASS, 1});
-            for (int what = 0; what < 5; what++) {
-                calls.add(new int[] {Calls.COUNT, what});
-            }
+        addTicks(calls, 14);
+        for (int what = 0; what < 5; what++) {
+            calls.add(new int[] {Calls.COUNT, what});
         }
         return calls;
+    }
+
+    private static void addTicks(List<int[]> calls, int ticks) {
+        for (int tick = 0; tick < ticks; tick++) {
+            calls.add(new int[] {Calls.PASS, 1});
+            calls.add(new int[] {Calls.GOES_ON});
+            calls.add(new int[] {Calls.COUNT, 0});
+            calls.add(new int[] {Calls.COUNT, 3});
+            calls.add(new int[] {Calls.ENTRIES});
+            calls.add(new int[] {Calls.ENTRY, 39, 0});
+        }
     }
 
     /** What the row of inputs has, by the target that takes it. */
@@ -108,9 +114,11 @@ final class Questions {
         for (int i = 0; i < 8; i++) {
             calls.add(new int[] {Calls.PASS, 50});
         }
-        calls.add(new int[] {Calls.INPUT, 0, 1, 2, 3});
-        calls.add(new int[] {Calls.TARGET, BuildGrid.LINK, 3, 9, 1, 65535, 0});
-        calls.add(new int[] {Calls.INPUT, 15, BuildGrid.NONE, 0, 0});
+        // The target comes first: an input would cover what a full row has.
+        for (int option = 0; option < 2; option++) {
+            calls.add(new int[] {Calls.TARGET, BuildGrid.LINK, 3, option, 1, 65535, 0});
+            calls.add(new int[] {Calls.INPUT, 15, 1, 2, 3});
+        }
         for (int t : ALL_TARGETS) {
             calls.add(new int[] {Calls.NEEDED, t});
             calls.add(new int[] {Calls.ABOUT, t, 4});

@@ -2,7 +2,7 @@ import java.util.ArrayList;
 import java.util.List;
 
 /**
- * Every call with every argument at the ends of its range and just outside: in five states of a grid, each
+ * Every call with every argument at the ends of its range and just outside: in six states of a grid, each
  * combination is due to answer or to throw the first exception that its promise lists; and what was refused has
  * changed nothing, then or later.
  */
@@ -36,6 +36,7 @@ public final class RefusalsTest {
         Expect.same(story.name + ": entries", grid.entries(), story.entries);
         Expect.same(story.name + ": goesOn", grid.goesOn() ? 1 : 0, story.goesOn ? 1 : 0);
         Expect.same(story.name + ": changes", grid.changes(), story.changes);
+        Expect.same(story.name + ": looks", grid.looks(), story.looks);
         for (int t = 0; t < story.states.length; t++) {
             Expect.same(story.name + ": state(" + t + ", 0)", grid.state(t, 0), story.states[t]);
         }

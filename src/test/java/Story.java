@@ -12,6 +12,7 @@ final class Story {
     int row;
     int entries;
     int changes;
+    int looks;
     /** What the first action of each target is, as far as that is told here. */
     int[] states = {};
     boolean goesOn;
@@ -23,7 +24,7 @@ final class Story {
     }
 
     static List<Story> all() {
-        return List.of(nothingTold(), someTold(), inABuild(), full(), fullInABuild());
+        return List.of(nothingTold(), someTold(), allWarm(), inABuild(), full(), fullInABuild());
     }
 
     int told() {
@@ -86,6 +87,30 @@ final class Story {
         story.changes = 2;
         story.states = new int[] {BuildGrid.DONE, BuildGrid.NONE, BuildGrid.DONE};
         story.proved = 0b101;
+        return story;
+    }
+
+    /** Each worker is idle and warm, the latest bisection has looked, and no row is begun. */
+    static Story allWarm() {
+        Story story = new Story("all warm");
+        for (int file = 0; file < 4; file++) {
+            story.target(BuildGrid.COMPILE, 0, 1, BuildGrid.NONE, 0, file);
+        }
+        story.target(BuildGrid.TEST, 0, 1, BuildGrid.NONE, 0, 4);
+        for (int worker = 1; worker < 4; worker++) {
+            story.add(Calls.SET_POWER, worker, 1);
+        }
+        story.add(Calls.BUILD, 0b1111);
+        story.add(Calls.PASS, 8);
+        story.add(Calls.WRITE, 5, 1);
+        story.add(Calls.WRITE, 5, 2);
+        story.add(Calls.WRITE, 4, badContent());
+        story.add(Calls.BISECT, 4);
+        story.entries = 4;
+        story.changes = 3;
+        story.states = new int[] {BuildGrid.DONE, BuildGrid.DONE, BuildGrid.DONE, BuildGrid.DONE, BuildGrid.NONE};
+        story.looks = 2;
+        story.proved = 0b1111;
         return story;
     }
 
