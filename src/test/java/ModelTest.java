@@ -45,7 +45,7 @@ public final class ModelTest {
         Model model = new Model();
         List<int[]> told = new ArrayList<>();
         for (int i = 0; i < Calls.MOST && told.size() < TELLING_CALLS; i++) {
-            int[] call = random.nextInt(5) < 2 ? shape.next(model.goesOn(), model.told()) : aQuestion(random);
+            int[] call = random.nextInt(5) < 2 ? shape.next(model) : aQuestion(random);
             if (call[0] <= Calls.BISECT) {
                 told.add(call);
             }
@@ -129,6 +129,9 @@ public final class ModelTest {
         private final int finds;
         /** Many targets are told at the beginning, and whole builds follow one another. */
         private final boolean hurries;
+        /** Many targets have the key of another one, many entries its result. */
+        private final boolean isAlike;
+        private Model model;
         private int told;
 
         Shape(Random random) {
@@ -138,6 +141,7 @@ public final class ModelTest {
             tests = random.nextBoolean();
             finds = random.nextInt(3);
             hurries = random.nextInt(3) == 0;
+            isAlike = random.nextInt(3) == 0;
         }
 
         private int pick(int... of) {
@@ -148,9 +152,10 @@ public final class ModelTest {
             return random.nextInt(n + 1);
         }
 
-        int[] next(boolean goesOn, int told) {
-            this.told = told;
-            int[] call = plain(goesOn);
+        int[] next(Model model) {
+            this.model = model;
+            told = model.told();
+            int[] call = plain(model.goesOn());
             if (random.nextInt(200) < wild && call.length > 1) {
                 call[1 + random.nextInt(call.length - 1)] = pick(EXTREMES);
             }
@@ -181,7 +186,7 @@ public final class ModelTest {
                 return new int[] {Calls.SET_WAYS, upTo(1), upTo(1)};
             }
             if (dice < 52) {
-                return dice < 50 ? new int[] {Calls.LIE, upTo(20), upTo(100002)} : new int[] {Calls.LOSE, upTo(20)};
+                return dice < 50 ? new int[] {Calls.LIE, upTo(20), aResult()} : new int[] {Calls.LOSE, upTo(20)};
             }
             if (dice < 65 && !goesOn) {
                 return new int[] {Calls.BUILD, told == 0 ? 1 : 1 + random.nextInt((1 << told) - 1) & (1 << told) - 1};
@@ -196,20 +201,26 @@ public final class ModelTest {
             return told > 0 && random.nextInt(3) == 0 ? 16 + random.nextInt(told) : upTo(3);
         }
 
+        private int aResult() {
+            boolean isAnothers = model.entries() > 0 && random.nextBoolean();
+            return isAnothers ? model.entry(random.nextInt(model.entries()), 3) : upTo(100002);
+        }
+
         private int[] anInput() {
             return random.nextInt(3) > 0 ? new int[] {Calls.INPUT, aThing(), -1, 0, 0}
                 : new int[] {Calls.INPUT, aThing(), aThing(), upTo(3), upTo(2)};
         }
 
         private int[] aTarget() {
-            if (told > 0 && random.nextInt(5) == 0) {
-                return new int[] {Calls.COPY, random.nextInt(told), upTo(2)};
+            if (told > 0 && random.nextInt(isAlike ? 2 : 5) == 0) {
+                return new int[] {Calls.COPY, random.nextInt(told), isAlike ? 0 : upTo(2)};
             }
             int kind = tests ? 2 : upTo(2);
             int set = finds == 0 ? -1 : pick(-1, upTo(65535), 65535, 65535 ^ 1 << upTo(15));
             boolean isTest = kind == 2;
             int shards = isTest ? 1 + upTo(3) : 1;
-            return new int[] {Calls.TARGET, kind, upTo(1), upTo(1), shards, set, isTest ? upTo(3) : 0};
+            int option = isAlike ? 0 : upTo(1);
+            return new int[] {Calls.TARGET, kind, pick(0, 0, 1, 1, 2, 3), option, shards, set, isTest ? upTo(3) : 0};
         }
     }
 }
