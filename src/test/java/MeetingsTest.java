@@ -273,7 +273,8 @@ public final class MeetingsTest {
             grid.write(0, Told.content(c -> onlyBad(wrong, c)));
             Told.buildAll(grid, 1);
             for (int s = 0; s < 4; s++) {
-                Expect.same("15: shard " + s + " of which " + wrong + " is bad", grid.state(0, s), s == wrong ? BAD : DONE);
+                Expect.same("15: shard " + s + " of which " + wrong + " is bad", grid.state(0, s),
+                    s == wrong ? BAD : DONE);
             }
             Expect.same("21: three attempts failed", grid.count(3), 3);
             Expect.same("21: no flake", grid.count(4), 0);
@@ -296,7 +297,8 @@ public final class MeetingsTest {
         grid.setPower(2, 1);
         Expect.same("15: one is lost", grid.state(0, 2), READY);
         grid.pass(1);
-        Expect.same("15: and begun, as its neighbour fails", grid.state(0, 2) * 10 + grid.state(0, 3), RUN * 10 + READY);
+        Expect.same("15: and begun again", grid.state(0, 2), RUN);
+        Expect.same("15: as its neighbour fails", grid.state(0, 3), READY);
         Told.passAll(grid);
         Expect.same("15: it is done", grid.state(0, 2), DONE);
         Expect.same("15: the neighbour is bad", grid.state(0, 3), BAD);
@@ -768,7 +770,8 @@ public final class MeetingsTest {
             }
             Told.passAll(grid);
             Expect.same("17: done", grid.state(1, 0), DONE);
-            Expect.same("15: a hit, unless it is lost or lies, way " + way, grid.count(1), way == 0 || way == 3 ? 1 : 0);
+            boolean isHit = way == 0 || way == 3;
+            Expect.same("15: a hit, unless it is lost or lies, way " + way, grid.count(1), isHit ? 1 : 0);
             Expect.same("18: what lies, if nobody looks", grid.result(1, 0) == 77 ? 1 : 0, way == 3 ? 1 : 0);
         }
     }
